@@ -215,7 +215,7 @@ public final class InterlockTables {
         }
     }
 
-    /** The words of a text, its end being the last one; the reader goes through them. */
+    /** The words of a text; the reader goes through them, up to the end behind the last one. */
     private static final class Words {
         private final byte[] kinds;
         private final short[] values;
@@ -225,7 +225,7 @@ public final class InterlockTables {
         private int value;
 
         Words(int textLength) {
-            int most = Math.max(0, textLength) + 1;
+            int most = Math.max(0, textLength);
             kinds = new byte[most];
             values = new short[most];
         }
@@ -268,7 +268,6 @@ public final class InterlockTables {
                 }
                 start = end;
             }
-            keep(END);
         }
 
         private void keep(int kind) {
@@ -698,7 +697,11 @@ public final class InterlockTables {
                 return false;
             }
             words.advance();
-            return takeOr(row, open + 1) && take(CLOSE);
+            if (!takeOr(row, open + 1) || words.kind() != CLOSE) {
+                return false;
+            }
+            words.advance();
+            return true;
         }
 
         private boolean takeCondition(Row row) {
@@ -819,7 +822,7 @@ public final class InterlockTables {
             if (row.mayLatch) {
                 putWord("latched");
             }
-            putBehind(';');
+            out.add(';');
             out.add('\n');
             blankDue = false;
         }
@@ -848,7 +851,7 @@ public final class InterlockTables {
                 putDigits(what);
             }
             if (bracketed) {
-                putBehind(')');
+                out.add(')');
             }
         }
 
@@ -867,12 +870,6 @@ public final class InterlockTables {
             for (int i = 0; i < word.length(); i++) {
                 out.add(word.charAt(i));
             }
-            blankDue = true;
-        }
-
-        /** A word that has no blank before it. */
-        private void putBehind(char word) {
-            out.add(word);
             blankDue = true;
         }
 

@@ -174,6 +174,15 @@ public final class PromiseTests {
         dueWrong("bar a0 when c0 for 2", 6);
         dueWrong("bar a0 when c0;;", 5);
         dueWrong(ROW + "c0", 5);
+        // A row that breaks off is no row, though another one begins or the text ends there.
+        String row = " a0 a1 when c0 and not (c1 or c2) for 2 latched";
+        String[] words = row.trim().replace("(", "( ").replace(")", " )").split(" ");
+        String begun = "bar";
+        for (int i = 0; i <= words.length; i++) {
+            dueWrong(begun, i + 1);
+            dueWrong(begun + " " + ROW, i + 1);
+            begun += i < words.length ? " " + words[i] : "";
+        }
         dueWrong(ROW + "bar a0 a0 when c0;", 7);
     }
 
@@ -442,7 +451,9 @@ public final class PromiseTests {
         due("listed(-1)", x.listed(-1), -1);
         due("listed(least)", x.listed(Integer.MIN_VALUE), -1);
         due("listed(most)", x.listed(Integer.MAX_VALUE), -1);
-        x.tick(5);
+        x.tick(4);
+        due("one second is left", x.listed(2), 4);
+        x.tick(1);
         due("listed(2)", x.listed(2), -1);
         due("listed(1)", x.listed(1), 3);
         x.tick(5);
@@ -577,8 +588,8 @@ public final class PromiseTests {
         dueWritten(ROW, ROW + "\n");
         dueWritten(" bar\n\na31  a10 a2 when(c15)  for 3600 latched ;bar a0 when not c9 for 10;",
             "bar a31 a10 a2 when c15 for 3600 latched;\nbar a0 when not c9 for 10;\n");
-        dueWritten("bar a0 when c0 for 0 latched; bar a0 when c0 for 100;",
-            "bar a0 when c0 for 0 latched;\nbar a0 when c0 for 100;\n");
+        dueWritten("bar a0 when c0 for 0 latched; bar a0 when c0 for 100; bar a0 when c0 for 1000;",
+            "bar a0 when c0 for 0 latched;\nbar a0 when c0 for 100;\nbar a0 when c0 for 1000;\n");
         InterlockTables x = withRows(ROW);
         due("write(-1)", x.write(-1), -1);
         due("write(least)", x.write(Integer.MIN_VALUE), -1);
@@ -621,6 +632,8 @@ public final class PromiseTests {
         dueExpression("not (not (c0 or c1))", "not not (c0 or c1)");
         dueExpression("(not (c0 or c1)) and c2", "not (c0 or c1) and c2");
         dueExpression("c0" + " or c1".repeat(31), "c0" + " or c1".repeat(31));
+        String deepest = "not ".repeat(20) + "c0" + " and c1".repeat(31);
+        dueExpression(deepest, deepest);
         dueExpression("(".repeat(20) + "c0" + " and c1)".repeat(20), "c0" + " and c1".repeat(20));
         dueExpression("not(".repeat(10) + "c0 or c1" + ")".repeat(10), "not ".repeat(10) + "(c0 or c1)");
         dueExpression("c0 and(c1 or ".repeat(15) + "c2" + ")".repeat(15), "c0 and (c1 or ".repeat(15) + "c2" + ")".repeat(15));
