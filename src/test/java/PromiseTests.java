@@ -159,6 +159,10 @@ public final class PromiseTests {
         dueWrong("bar a0 when c0 not c1;", 4);
         dueWrong("bar a0 when c0 (c1);", 4);
         dueWrong("bar a0 when c0 and;", 5);
+        dueWrong("bar a0 when c0 or;", 5);
+        dueWrong("bar a0 when c0 or for 2;", 5);
+        dueWrong("bar a0 when (c0 or);", 6);
+        dueWrong("bar a0 when (c0 and) or c1;", 6);
         dueWrong("bar a0 when c0 or or c1;", 5);
         dueWrong("bar a0 when not;", 4);
         dueWrong("bar a0 when (c0", 5);
