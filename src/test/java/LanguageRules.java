@@ -1,4 +1,7 @@
+import java.io.DataInputStream;
+import java.io.IOException;
 import java.lang.reflect.Constructor;
+import java.lang.reflect.Executable;
 import java.lang.reflect.Field;
 import java.lang.reflect.Member;
 import java.lang.reflect.Method;
@@ -16,6 +19,17 @@ import java.util.regex.Pattern;
 public final class LanguageRules {
     private static final Path SOURCE = Path.of("src/main/java/InterlockTables.java");
     private static final int LONGEST_METHOD = 60;
+    private static final int MOST_PARAMETERS = 7;
+    private static final Set<Class<?>> CONSTANTS = Set.of(int.class, long.class, boolean.class, char.class,
+        String.class, int[].class, long[].class, char[].class, byte[].class);
+    // Rule 4, without what the program has no need of.
+    private static final Set<String> LIBRARY = Set.of("java/lang/Object.<init>",
+        "java/lang/String.length", "java/lang/String.charAt", "java/lang/String.isEmpty", "java/lang/String.equals",
+        "java/util/ArrayList.<init>", "java/util/ArrayList.add", "java/util/ArrayList.get", "java/util/ArrayList.set",
+        "java/util/ArrayList.size", "java/util/ArrayList.isEmpty", "java/util/ArrayList.clear",
+        "java/lang/Math.max", "java/lang/Math.min", "java/lang/Math.abs", "java/lang/Integer.bitCount",
+        "java/lang/System.arraycopy", "java/util/Arrays.copyOf", "java/util/Arrays.copyOfRange",
+        "java/util/Arrays.fill");
 
     private static int wrong = 0;
 
@@ -25,6 +39,11 @@ public final class LanguageRules {
         imports(bare);
         face();
         nested();
+        for (Class<?> one : allClasses()) {
+            methods(one);
+            staticFields(one);
+            library(one);
+        }
         methodLengths(bare);
         System.out.println(wrong == 0 ? "rules are kept" : wrong + " rules are broken");
         if (wrong != 0) {
@@ -110,15 +129,76 @@ public final class LanguageRules {
         for (Class<?> inside : classes) {
             check(inside + " is static", Modifier.isStatic(inside.getModifiers()));
             check(inside + " is not public", !Modifier.isPublic(inside.getModifiers()));
+            check(inside + " has no class inside", inside.getDeclaredClasses().length == 0);
             check(inside + " has at most twenty fields", inside.getDeclaredFields().length <= 20);
-            for (Field field : inside.getDeclaredFields()) {
-                check(field + " is no static state", !Modifier.isStatic(field.getModifiers())
-                    || Modifier.isFinal(field.getModifiers()));
+        }
+    }
+
+    private static List<Class<?>> allClasses() {
+        List<Class<?>> all = new ArrayList<>(List.of(InterlockTables.class));
+        all.addAll(List.of(InterlockTables.class.getDeclaredClasses()));
+        return all;
+    }
+
+    private static void methods(Class<?> one) {
+        Set<String> face = new TreeSet<>();
+        for (Method method : InterlockTables.class.getMethods()) {
+            face.add(method.getName());
+        }
+        List<Executable> all = new ArrayList<>(List.of(one.getDeclaredMethods()));
+        for (Executable method : all) {
+            boolean ofTheFace = one == InterlockTables.class && Modifier.isPublic(method.getModifiers());
+            check(method + " bears the name of a public one", ofTheFace || !face.contains(method.getName()));
+        }
+        all.addAll(List.of(one.getDeclaredConstructors()));
+        for (Executable method : all) {
+            check(method + " has at most seven parameters", method.getParameterCount() <= MOST_PARAMETERS);
+            check(method + " is not made by the compiler", !method.isSynthetic());
+        }
+    }
+
+    private static void staticFields(Class<?> one) {
+        for (Field field : one.getDeclaredFields()) {
+            if (Modifier.isStatic(field.getModifiers())) {
+                check(field + " is a constant", Modifier.isFinal(field.getModifiers())
+                    && CONSTANTS.contains(field.getType()));
             }
         }
-        for (Field field : InterlockTables.class.getDeclaredFields()) {
-            check(field + " is no static state", !Modifier.isStatic(field.getModifiers())
-                || Modifier.isFinal(field.getModifiers()));
+    }
+
+    /** The methods that a class's compiled form names stand in its pool of constants. */
+    private static void library(Class<?> one) throws IOException {
+        String file = one.getName() + ".class";
+        try (DataInputStream in = new DataInputStream(InterlockTables.class.getResourceAsStream(file))) {
+            in.skipNBytes(8);
+            int size = in.readUnsignedShort();
+            String[] texts = new String[size];
+            int[][] pairs = new int[size][];
+            List<Integer> methods = new ArrayList<>();
+            for (int i = 1; i < size; i++) {
+                int tag = in.readUnsignedByte();
+                switch (tag) {
+                    case 1: texts[i] = in.readUTF(); break;
+                    case 3: case 4: in.skipNBytes(4); break;
+                    // A long or a double takes two places.
+                    case 5: case 6: in.skipNBytes(8); i++; break;
+                    case 7: case 8: pairs[i] = new int[] {in.readUnsignedShort(), 0}; break;
+                    case 9: case 10: case 11: case 12:
+                        pairs[i] = new int[] {in.readUnsignedShort(), in.readUnsignedShort()};
+                        if (tag == 10 || tag == 11) {
+                            methods.add(i);
+                        }
+                        break;
+                    default:
+                        check(file + " has something dynamic in it", false);
+                        return;
+                }
+            }
+            for (int i : methods) {
+                String owner = texts[pairs[pairs[i][0]][0]];
+                String called = owner + "." + texts[pairs[pairs[i][1]][0]];
+                check(file + " calls " + called, owner.startsWith("InterlockTables") || LIBRARY.contains(called));
+            }
         }
     }
 
